@@ -842,7 +842,8 @@ public final class DripCups {
             if (second[cup] == NONE) {
                 return drops;
             }
-            return has(turns, cup) ? drops / 2 : (drops + 1) / 2;
+            int firstIsNext = 1 - ((turns >> cup) & 1);
+            return (drops + firstIsNext) / 2;
         }
 
         int dropsInto(int cup, int into, int drops) {

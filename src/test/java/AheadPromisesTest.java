@@ -98,6 +98,9 @@ public final class AheadPromisesTest {
         CHECKS.due("silence between", 4, () -> y.sound(9, 0));
         CHECKS.due("silence ahead", 1, () -> y.sound(2, 0));
         CHECKS.due("silence at the end", 3, () -> y.sound(5, 0));
+        DripCups z = Checks.cave("cup 1 0 1;");
+        CHECKS.due("no silence", 0, () -> z.sound(200, 0));
+        CHECKS.due("loudest of like ones", 1, () -> z.sound(200, 1));
     }
 
     private static void later() {
@@ -154,6 +157,10 @@ public final class AheadPromisesTest {
         CHECKS.due("two tips in one hour", 1, () -> x.pause(4));
         DripCups y = Checks.cave("cup 20 0 1;cup 10 9 0;pipe 0 1;cup 30 0 0;");
         CHECKS.due("within 200 only once", -1, () -> y.pause(1));
+        DripCups z = Checks.cave("cup 20 0 1;cup 5 0 0;pipe 0 1;");
+        CHECKS.due("the second in the 200th", 100, () -> z.pause(1));
+        DripCups w = Checks.cave("cup 4 1 3;");
+        CHECKS.due("from the first hour to the third", 2, () -> w.pause(0));
         CHECKS.due("never", -1, () -> y.pause(2));
         CHECKS.due("no cup", Checks.NO_SUCH, () -> y.pause(3));
         CHECKS.due("no cup below", Checks.NO_SUCH, () -> y.pause(-1));
@@ -162,6 +169,7 @@ public final class AheadPromisesTest {
     private static void chorus() {
         DripCups x = Checks.cave(THREE);
         CHECKS.due("of none", 9, () -> x.chorus(0, 9));
+        CHECKS.due("of none in 1", 1, () -> x.chorus(0, 1));
         CHECKS.due("of one", 3, () -> x.chorus(4, 11));
         CHECKS.due("of two", 2, () -> x.chorus(5, 12));
         CHECKS.due("of all", 16, () -> x.chorus(7, 200));
@@ -181,6 +189,11 @@ public final class AheadPromisesTest {
         CHECKS.due("hours 201", Checks.ILLEGAL, () -> x.never(201));
         DripCups y = Checks.cave(LEAKS);
         CHECKS.due("in 200", 1, () -> y.never(200));
+        DripCups nine = Checks.cave("cup 3 0 0;".repeat(8) + "cup 1 0 1;");
+        CHECKS.due("of nine", 255, () -> nine.never(200));
+        CHECKS.due("the ninth tips", 256, () -> nine.tipping(1));
+        CHECKS.due("of nine the oftenest", 8, () -> nine.oftenest(1));
+        CHECKS.due("all nine are dry", 511, () -> nine.later(1, 1));
     }
 
     private static void swell() {
@@ -189,6 +202,7 @@ public final class AheadPromisesTest {
         CHECKS.due("it is less later", 5, () -> x.swell(0, 200));
         CHECKS.due("behind an hour", 3, () -> x.swell(1, 1));
         DripCups y = Checks.cave("cup 9 2 3;");
+        CHECKS.due("behind one hour", 5, () -> y.swell(0, 1));
         CHECKS.due("behind two hours", 8, () -> y.swell(0, 2));
         CHECKS.due("behind three", 8, () -> y.swell(0, 3));
         CHECKS.due("no cup", Checks.NO_SUCH, () -> y.swell(1, 201));

@@ -68,6 +68,12 @@ public final class FarPromisesTest {
         CHECKS.due("of one", 30, () -> x.meeting(2));
         CHECKS.due("of two", 870, () -> x.meeting(3));
         CHECKS.due("of three beyond 5000", -1, () -> x.meeting(7));
+        DripCups first = Checks.cave("cup 1 0 1;");
+        CHECKS.due("in the first", 1, () -> first.meeting(1));
+        DripCups late = Checks.cave("cup 26 17 1;cup 14 3 0;cup 14 0 0;pipe 0 1;pipe 1 2;");
+        CHECKS.due("in the 5001st", -1, () -> late.meeting(4));
+        late.pour(0, 1);
+        CHECKS.due("an hour earlier", 5000, () -> late.meeting(4));
         CHECKS.due("not bits", Checks.ILLEGAL, () -> x.meeting(8));
         CHECKS.due("below 0", Checks.ILLEGAL, () -> x.meeting(-1));
         x.plug(2, true);
@@ -111,6 +117,10 @@ public final class FarPromisesTest {
         CHECKS.due("plugged", 1, () -> x.giver(3, 10));
         x.plug(1, true);
         CHECKS.due("of like ones the least", 0, () -> x.giver(3, 10));
+        DripCups y = Checks.cave("cup 3 0 1;cup 3 0 1;cup 9 0 0;cup 9 0 0;pipe 0 3;pipe 1 2 3;");
+        CHECKS.due("both give nothing: the least", 0, () -> y.giver(3, 1));
+        y.crack(1, 1);
+        CHECKS.due("as the second one of two", 1, () -> y.giver(3, 9));
         CHECKS.due("no cup", Checks.NO_SUCH, () -> x.giver(5, -1));
         CHECKS.due("hours -1", Checks.ILLEGAL, () -> x.giver(0, -1));
         CHECKS.due("hours 1000001", Checks.ILLEGAL, () -> x.giver(0, 1000001));
@@ -165,6 +175,8 @@ public final class FarPromisesTest {
         CHECKS.due("by how much", Integer.MAX_VALUE - 2, () -> x.toCrack(0, Integer.MAX_VALUE, 1, 1));
         CHECKS.due("never", 8, () -> x.toCrack(0, 0, 1, 0));
         CHECKS.due("it can't", 1, () -> x.toCrack(1, 3, 60, 0));
+        DripCups full = Checks.cave("cup 10 9 20;");
+        CHECKS.due("only by the most", 30, () -> full.toCrack(0, 0, 1, 0));
         CHECKS.due("by three", 3, () -> x.toCrack(1, 3, 60, 1));
         CHECKS.due("no cup", Checks.NO_SUCH, () -> x.toCrack(2, -1, 0, 0));
         CHECKS.due("no what", Checks.NO_SUCH, () -> x.toCrack(0, -1, 0, 2));

@@ -98,6 +98,12 @@ public final class GuessPromisesTest {
         // 0 into 2, on the floor, 1 into 2: only in hours 20 and 40 does a drop go
         CHECKS.due("in the 40th: three", 3, () -> y.listen(1));
         CHECKS.due("the 40th", 40, () -> y.listen(0));
+        DripCups nine = Checks.cave("cup 1 0 1;" + "cup 1 0 0;".repeat(8));
+        CHECKS.due("of nine: 0 into each other one, else 0 alone", 9, () -> nine.listen(1));
+        CHECKS.due("in the first hour", 1, () -> nine.listen(0));
+        CHECKS.due("of nine all but the floor", 36, () -> nine.led(0));
+        nine.hear(8, 40, true);
+        CHECKS.due("only into the ninth", 8, () -> nine.led(1));
     }
 
     private static void cold() {
@@ -145,7 +151,20 @@ public final class GuessPromisesTest {
         CHECKS.due("the first of them", 0, () -> z.game(1, 2, 1));
         z.plug(1, true);
         CHECKS.due("it is plugged as it is", 1, () -> z.game(1, 2, 0));
+        z.undo();
+        CHECKS.due("two couples, the other way round", 2, () -> z.game(2, 1, 0));
+        z.crack(1, 25);
+        CHECKS.due("not within 12 hours", 1, () -> z.game(1, 2, 0));
+        z.undo();
+        z.plug(1, true);
         CHECKS.due("so one needn't", 0, () -> z.game(1, 2, 1));
+        // all leaks from cup 1 until it has tipped: the drop of cup 0 makes it tip 9 times, or twice
+        DripCups often = Checks.cave("cup 12 11 1;cup 4 0 3;pipe 0 1;leaks 99*(cup=1 and tips=0);");
+        CHECKS.due("1 less 4 is worse than 0 less 1", 10, () -> often.game(0, 1, 1));
+        CHECKS.due("the other way round", 1, () -> often.game(1, 0, 1));
+        DripCups twice = Checks.cave("cup 12 11 1;cup 20 17 2;pipe 0 1;leaks 99*(cup=1 and tips=0);");
+        CHECKS.due("1 less 1 is better than 0 less 1", 0, () -> twice.game(0, 1, 1));
+        CHECKS.due("that too", 0, () -> twice.game(1, 0, 1));
     }
 
     private static void years() {

@@ -44,6 +44,23 @@ public final class StatePromisesTest {
         CHECKS.due("bytes", 20, () -> x.count(9));
         CHECKS.due("count 13", Checks.NO_SUCH, () -> x.count(13));
         CHECKS.due("count -1", Checks.NO_SUCH, () -> x.count(-1));
+        DripCups one = Checks.cave("cup 1 0 0;");
+        CHECKS.due("one is alike with none", 0, () -> one.count(6));
+        DripCups nine = Checks.cave("cup 2 1 1;".repeat(9) + "pipe 0 1;pipe 1 2;pipe 2 3;pipe 3 4;pipe 4 5;"
+            + "pipe 5 6;pipe 6 7;pipe 7 8;");
+        CHECKS.due("nine are alike", 36, () -> nine.count(6));
+        CHECKS.due("one is a root", 1, () -> nine.count(5));
+        CHECKS.due("nine deep", 8, () -> nine.cup(0, 7));
+        CHECKS.due("a drop tips all nine", 1, () -> nine.pour(0, 1));
+        CHECKS.due("each of them once", 9, () -> nine.count(4));
+        CHECKS.due("none is left", 0, () -> nine.count(3));
+        nine.hours(1);
+        // 1 drop in 0, no tipping; so each has its spring's drop
+        CHECKS.due("a drop in each", 9, () -> nine.count(3));
+        nine.hours(1);
+        // 2 in 0 tips; each of the others has 1, its spring's drop and one from above: it tips and keeps 1
+        CHECKS.due("all tipped again", 18, () -> nine.count(4));
+        CHECKS.due("what is over", 8, () -> nine.count(3));
     }
 
     private static void cup() {

@@ -217,6 +217,8 @@ public final class TextPromisesTest {
         reads("cup 1 0 0;pipe 0 9999;", 3, 17);
         reads("cup 1 0 0;cup 1 0 0;pipe 0 1 2;", 3, 29);
         reads("leaks x;", 3, 6);
+        reads("leaks a;", 3, 6);
+        reads("leaks z;", 3, 6);
         reads("leaks 1 or notx;", 3, 11);
         reads("leaks leaks;", 3, 6);
         reads("leaks fills;", 3, 6);
@@ -262,6 +264,8 @@ public final class TextPromisesTest {
         gives(1, "not not 7");
         gives(1, "not 4<3");
         gives(1, "5 or 0");
+        gives(1, "0 or 1");
+        gives(0, "0 or 0");
         gives(0, "5 and 0");
         gives(1, "5 and 6");
         gives(1, "1 or 1 and 0");

@@ -191,5 +191,9 @@ public final class GuessPromisesTest {
         CHECKS.due("n 201", Checks.ILLEGAL, () -> x.years(1, 201, 2));
         DripCups y = Checks.cave("cup 1 0 1;frost 1;");
         CHECKS.due("frost is asked", 0, () -> y.years(3, 200, 0));
+        DripCups one = Checks.cave("cup 2 0 1;");
+        CHECKS.due("a cup alone: tips", 7, () -> one.years(0, 200, 0));
+        CHECKS.due("a cup alone: fill", 6, () -> one.years(0, 200, 1));
+        CHECKS.due("a cup alone by 1", 13, () -> one.years(1, 200, 0));
     }
 }

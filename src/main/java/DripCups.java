@@ -725,9 +725,7 @@ public final class DripCups {
         int turns = 0;
 
         Cups() {
-            Arrays.fill(holds, 1);
-            Arrays.fill(first, NONE);
-            Arrays.fill(second, NONE);
+            clear();
         }
 
         void clear() {

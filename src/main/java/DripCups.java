@@ -644,8 +644,9 @@ public final class DripCups {
                 drip.cups.setPlugged(other, true);
             }
             drip.goOn(GAME_HOURS);
-            gains[couple] = drip.times[cup] - drip.times[other] / 2 - plugs;
-            otherGains[couple] = drip.times[other] - drip.times[cup] / 2 - otherPlugs;
+            int ahead = drip.times[cup] - drip.times[other];
+            gains[couple] = ahead / 2 - plugs;
+            otherGains[couple] = -ahead / 2 - otherPlugs;
         }
     }
 

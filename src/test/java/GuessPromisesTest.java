@@ -145,26 +145,46 @@ public final class GuessPromisesTest {
         CHECKS.due("it is better to plug", 10, () -> y.game(1, 2, 1));
         CHECKS.due("for the other one too", 1, () -> y.game(2, 1, 1));
         CHECKS.due("one couple", 1, () -> y.game(1, 2, 0));
-        // plugged it tips once in 12 hours, which is as good as not to lose 1
-        DripCups z = Checks.cave("cup 1 0 2;cup 24 0 1;cup 1 0 0;pipe 0 1;leaks 9*(fill=3);");
+        gameGains();
+        gameAsItIs();
+    }
+
+    private static void gameGains() {
+        // tips 4 and 8, by plugging 0: 0 and 0, by plugging 1: 4 and 2, by both: 0 and 0
+        DripCups x = Checks.cave("cup 3 0 1;cup 2 0 2;pipe 0 1;frost cup=1 and fill=0;");
+        CHECKS.due("the difference is halved: -2 is worse than 0 less 1", 10, () -> x.game(0, 1, 1));
+        CHECKS.due("no other couple rests", 1, () -> x.game(0, 1, 0));
+        CHECKS.due("the other way round", 1, () -> x.game(1, 0, 1));
+        // all leaks from cup 1 until it has tipped: the drop of cup 0 makes it tip 9 times, 4 times, 2 times
+        DripCups nine = Checks.cave("cup 12 11 1;cup 4 0 3;pipe 0 1;leaks 99*(cup=1 and tips=0);");
+        CHECKS.due("-8 by 2 is worse than 0 less 1", 10, () -> nine.game(0, 1, 1));
+        CHECKS.due("for the other one too", 1, () -> nine.game(1, 0, 1));
+        DripCups four = Checks.cave("cup 12 11 1;cup 10 6 3;pipe 0 1;leaks 99*(cup=1 and tips=0);");
+        CHECKS.due("it tips four times", 4, () -> four.then(1, 12, 1));
+        CHECKS.due("-3 by 2 is -1, as 0 less 1: two couples", 2, () -> four.game(0, 1, 0));
+        CHECKS.due("the first one doesn't plug", 0, () -> four.game(0, 1, 1));
+        DripCups two = Checks.cave("cup 12 11 1;cup 20 17 2;pipe 0 1;leaks 99*(cup=1 and tips=0);");
+        CHECKS.due("it tips twice", 2, () -> two.then(1, 12, 1));
+        CHECKS.due("-1 by 2 is 0, not -1: one couple", 1, () -> two.game(0, 1, 0));
+        CHECKS.due("neither plugs", 0, () -> two.game(0, 1, 1));
+        CHECKS.due("nor the other way round", 0, () -> two.game(1, 0, 1));
+    }
+
+    private static void gameAsItIs() {
+        // plugged it tips twice in 12 hours, else never: 2 by 2 less 1 is as good as 0
+        DripCups z = Checks.cave("cup 1 0 2;cup 12 0 1;cup 1 0 0;pipe 0 1;leaks 9*(fill=3);");
         CHECKS.due("two couples", 2, () -> z.game(1, 2, 0));
         CHECKS.due("the first of them", 0, () -> z.game(1, 2, 1));
+        CHECKS.due("two couples, the other way round", 2, () -> z.game(2, 1, 0));
         z.plug(1, true);
         CHECKS.due("it is plugged as it is", 1, () -> z.game(1, 2, 0));
-        z.undo();
-        CHECKS.due("two couples, the other way round", 2, () -> z.game(2, 1, 0));
-        z.crack(1, 25);
-        CHECKS.due("not within 12 hours", 1, () -> z.game(1, 2, 0));
-        z.undo();
-        z.plug(1, true);
         CHECKS.due("so one needn't", 0, () -> z.game(1, 2, 1));
-        // all leaks from cup 1 until it has tipped: the drop of cup 0 makes it tip 9 times, or twice
-        DripCups often = Checks.cave("cup 12 11 1;cup 4 0 3;pipe 0 1;leaks 99*(cup=1 and tips=0);");
-        CHECKS.due("1 less 4 is worse than 0 less 1", 10, () -> often.game(0, 1, 1));
-        CHECKS.due("the other way round", 1, () -> often.game(1, 0, 1));
-        DripCups twice = Checks.cave("cup 12 11 1;cup 20 17 2;pipe 0 1;leaks 99*(cup=1 and tips=0);");
-        CHECKS.due("1 less 1 is better than 0 less 1", 0, () -> twice.game(0, 1, 1));
-        CHECKS.due("that too", 0, () -> twice.game(1, 0, 1));
+        z.undo();
+        z.crack(1, 13);
+        CHECKS.due("only once within 12 hours: 1 by 2 is 0, less 1", 1, () -> z.game(1, 2, 0));
+        z.crack(1, 6);
+        CHECKS.due("four times: 4 by 2 less 1 is more than 0", 10, () -> z.game(1, 2, 1));
+        CHECKS.due("that alone", 1, () -> z.game(1, 2, 0));
     }
 
     private static void years() {

@@ -880,7 +880,7 @@ final class Model {
             t.plugged.add(other);
         }
         t.hours(12);
-        return t.times[own] - t.times[other] / 2 - a;
+        return (t.times[own] - t.times[other]) / 2 - a;
     }
 
     int years(int seed, int n, int what) {

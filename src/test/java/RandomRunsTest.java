@@ -9,11 +9,15 @@ public final class RandomRunsTest {
         ";", "(", ")", "+", "-", "*", "/", "<", "=", "0", "1", "3", "9", "30", "31", "00012", "9999", "10000",
         "#", "A", "\t", "\u00e9", " ", "\n"};
 
+    /** What an object answers is promised for 512 calls; a text takes up to 38, an act up to 45, the end 13. */
+    private static final int MOST_CALLS = 512 - 38 - 45 - 13;
+
     private final Checks checks = new Checks();
     private final Random random;
     private final List<String> calls = new ArrayList<>();
     private DripCups x;
     private Model m;
+    private int made = 0;
 
     private RandomRunsTest(long seed) {
         random = new Random(seed);
@@ -139,7 +143,15 @@ public final class RandomRunsTest {
     }
 
     private void both(String what, int want, Checks.Call got) {
+        made++;
         checks.due(what, want, got);
+    }
+
+    private void begin() {
+        x = new DripCups();
+        m = new Model();
+        made = 0;
+        calls.clear();
     }
 
     private void call(String what, Checks.Call want, Checks.Call got) {
@@ -149,9 +161,11 @@ public final class RandomRunsTest {
     }
 
     private void texts(int many) {
-        x = new DripCups();
-        m = new Model();
+        begin();
         for (int i = 0; i < many; i++) {
+            if (made > MOST_CALLS) {
+                begin();
+            }
             String text = text(true);
             tell(below(4) == 0 ? text : spoilt(text));
             int what = below(13);
@@ -185,9 +199,8 @@ public final class RandomRunsTest {
     }
 
     private void run(int many) {
-        x = new DripCups();
-        m = new Model();
-        for (int i = 0; i < many; i++) {
+        begin();
+        for (int i = 0; i < many && made <= MOST_CALLS; i++) {
             if (i == 3 || below(40) == 0) {
                 String text = text(true);
                 tell(below(10) == 0 ? spoilt(text) : text);
@@ -249,12 +262,14 @@ public final class RandomRunsTest {
             case 9:
                 if (below(3) == 0) {
                     x.forget();
+                    made++;
                     m.heard.clear();
                     calls.add("forget");
                 }
                 break;
             case 10:
                 x.image();
+                made++;
                 m.image();
                 calls.add("image");
                 break;
@@ -347,6 +362,7 @@ public final class RandomRunsTest {
             case 7 -> {
                 // the model walks to a million hours where there is no n-th time
                 int n = Checks.of(() -> m.fallen(c, 500)) - below(4);
+                made++;
                 if (Checks.of(() -> x.nth(c, n)) != -1) {
                     call("nth " + c + " " + n, () -> m.nth(c, n), () -> x.nth(c, n));
                 }

@@ -341,6 +341,7 @@ public final class AheadEdgesTest {
         for (int[] row : rows) {
             DripCups x = tipsIn(row[0], row[1]);
             CHECKS.due("pause from " + row[0] + " to " + row[1], row[2], () -> x.pause(0));
+            CHECKS.due("asked again", row[2], () -> x.pause(0));
         }
         DripCups once = tipsIn(5);
         CHECKS.due("tips once", -1, () -> once.pause(0));

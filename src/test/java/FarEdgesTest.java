@@ -397,6 +397,13 @@ public final class FarEdgesTest {
         CHECKS.due("half of two is as much as one: the least", 0, () -> y.giver(3, 1000000));
         y.pour(0, 1);
         CHECKS.due("the second one's turn: as much", 0, () -> y.giver(3, 1));
+        DripCups second = Checks.cave("cup 1 0 1;cup 1 0 1;cup 9 0 0;cup 9 0 0;pipe 0 3;pipe 1 2 3;");
+        CHECKS.due("as the second one of two: less", 0, () -> second.giver(3, 1000000));
+        second.crack(0, 2);
+        CHECKS.due("as the second one of two: as much, so the least", 0, () -> second.giver(3, 1000000));
+        second.crack(0, 3);
+        CHECKS.due("as the second one of two: more", 1, () -> second.giver(3, 1000000));
+        CHECKS.due("as the second one of two: not yet", 0, () -> second.giver(3, 1));
         y.crack(0, 2);
         CHECKS.due("a quarter is less", 1, () -> y.giver(3, 1000000));
         // the one tips with each tenth drop, the other one an hour ahead of it
@@ -486,5 +493,8 @@ public final class FarEdgesTest {
             int b = to;
             CHECKS.due("the most to " + b, due[b], () -> most.ways(0, b));
         }
+        CHECKS.due("no ways are left in how deep it is", 8, () -> most.cup(0, 7));
+        CHECKS.due("nor of the last but one", 1, () -> most.cup(7, 7));
+        CHECKS.due("nor of the last", 0, () -> most.cup(8, 7));
     }
 }

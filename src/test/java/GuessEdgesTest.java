@@ -219,6 +219,12 @@ public final class GuessEdgesTest {
         CHECKS.due("by all ways", 3, () -> x.led(0));
         CHECKS.due("the first of all", 2, () -> x.led(1));
         CHECKS.due("and without", 1, () -> x.led(2));
+        x.hear(0, 1, true);
+        CHECKS.due("none any more", 0, () -> x.led(0));
+        CHECKS.due("no first any more", -1, () -> x.led(1));
+        CHECKS.due("nor without", 0, () -> x.led(2));
+        CHECKS.due("nor any hour", -1, () -> x.listen(0));
+        CHECKS.due("nor any unlike", 0, () -> x.listen(1));
     }
 
     // ---- promise 28 ----

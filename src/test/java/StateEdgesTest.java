@@ -1,3 +1,5 @@
+import java.lang.reflect.Field;
+
 /** The edges that the document names for promises 5 to 12, 42 and 43: each sentence has a method of its own. */
 public final class StateEdgesTest {
     private static final Checks CHECKS = new Checks();
@@ -5,11 +7,12 @@ public final class StateEdgesTest {
     private static final int MOST = Integer.MAX_VALUE;
     private static final int[] NO_CUPS = {-1, 3, 8, 9, LEAST, MOST};
 
-    public static void main(String[] args) {
+    public static void main(String[] args) throws ReflectiveOperationException {
         countThrows();
         countEmptyAndFull();
         countRootsAndAlike();
         statusCounts();
+        mostTips();
         cupThrows();
         cupLeastAndMost();
         hoursRefused();
@@ -123,6 +126,40 @@ public final class StateEdgesTest {
         x.undo();
         x.restore();
         CHECKS.due("neither undo nor restore takes it back", 4, () -> x.count(11));
+    }
+
+    private static Object inside(Object of, String name) throws ReflectiveOperationException {
+        Field field = of.getClass().getDeclaredField(name);
+        field.setAccessible(true);
+        return field.get(of);
+    }
+
+    /**
+     * "(How often a CUP has tipped counts to 1000000000.)", "4 how often all have tipped (1000000000 at most)".
+     * No 512 calls come that far, so the test sets the row inside the object, however that may be named.
+     */
+    private static void mostTips() throws ReflectiveOperationException {
+        DripCups x = Checks.cave("cup 1 0 0;".repeat(9));
+        int[] tips = (int[]) inside(inside(inside(x, "now"), "cups"), "tips");
+        tips[0] = 999999998;
+        CHECKS.due("how often by this", 1, () -> x.pour(0, 1));
+        CHECKS.due("one less than the most", 999999999, () -> x.cup(0, 5));
+        CHECKS.due("of all", 999999999, () -> x.count(4));
+        CHECKS.due("a cup more", 2, () -> x.pour(1, 2));
+        CHECKS.due("of all: the most", 1000000000, () -> x.count(4));
+        CHECKS.due("how often by this, beyond", 3, () -> x.pour(0, 3));
+        CHECKS.due("the most", 1000000000, () -> x.cup(0, 5));
+        CHECKS.due("once more", 50, () -> x.pour(0, 50));
+        CHECKS.due("it stays the most", 1000000000, () -> x.cup(0, 5));
+        for (int cup = 0; cup < 9; cup++) {
+            tips[cup] = 1000000000;
+        }
+        CHECKS.due("of all nine: the most", 1000000000, () -> x.count(4));
+        DripCups ahead = Checks.cave("cup 1 0 3;leaks tips;frost not (tips<1000*1000*1000);");
+        ((int[]) inside(inside(inside(ahead, "now"), "cups"), "tips"))[0] = 999999999;
+        CHECKS.due("an hour to the most, then it is frozen by that", 3, () -> ahead.then(0, 9, 1));
+        ahead.hours(1);
+        CHECKS.due("the most behind an hour", 1000000000, () -> ahead.cup(0, 5));
     }
 
     // ---- promise 6 ----

@@ -288,7 +288,8 @@ public final class TextEdgesTest {
         String[] texts = {
             "cup 30 7 20;cup 9 8 7;cup 5 4 3;pipe 0 1 2;pipe 1 2;leaks 3;frost cup=2;", "cup 4 2 1;", "cup 9 0 0;cup 31",
             "cup 2 1 1;cup 3 2 2;", "leaks 7;frost 1;", "cup 8 3 3;cup 9 0 0;pipe 0 1;", "", "cup 9 3 2;leaks 1;x",
-            "cup 9 3 2;cup 9 3 2;", "frost 1;cup 9 3 2;", "cup 9 3 2;pipe", "cup 9 3 2;", "cup 7 0 1;leaks"};
+            "cup 9 3 2;cup 9 3 2;", "cup 9 7 2;leaks 1;", "cup 9 7 2;leaks 2;", "leaks 3;frost hour=0;cup 9 7 2;",
+            "leaks 0;frost hour=1;cup 9 7 2;", "cup 9 7 2;frost hour=2;", "leaks 4;cup 9 7 2;", "frost 1;cup 9 3 2;", "cup 9 3 2;pipe", "cup 9 3 2;", "cup 7 0 1;leaks"};
         DripCups x = new DripCups();
         DripCups latest = x;
         for (String text : texts) {

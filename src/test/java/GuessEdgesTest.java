@@ -34,6 +34,7 @@ public final class GuessEdgesTest {
         yearsEnds();
         yearsDraws();
         yearsAsTheModel();
+        yearsOfOneAndNine();
         yearsWithoutCups();
         CHECKS.end();
     }
@@ -505,6 +506,22 @@ public final class GuessEdgesTest {
                 years(x, seed, n, model.years(seed, n, 0), model.years(seed, n, 1), model.years(seed, n, 2));
             }
         }
+    }
+
+    /** "how often all tip .., all together; FILL of all ..; how many CUPS": of one cup, and of nine */
+    private static void yearsOfOneAndNine() {
+        // 3 draws nothing that is done ahead of three hours
+        DripCups one = Checks.cave("cup 2 1 1;");
+        years(one, 3, 1, 1, 0, 0);
+        years(one, 3, 2, 1, 1, 0);
+        DripCups nine = Checks.cave("cup 2 1 1;".repeat(4) + "cup 9 3 1;".repeat(4) + "cup 1 0 20;");
+        years(nine, 3, 1, 24, 16, 4);
+        years(nine, 3, 3, 68, 24, 4);
+        // 47 plugs the ninth cup, 132 leads the eighth into it
+        years(nine, 47, 1, 4, 16, 5);
+        DripCups led = Checks.cave("cup 9 3 0;".repeat(7) + "cup 1 0 1;cup 9 8 0;");
+        years(led, 3, 1, 1, 29, 8);
+        years(led, 132, 1, 2, 21, 7);
     }
 
     /** "(Without CUPS nothing is drawn behind 0 to 2.)" */

@@ -298,7 +298,10 @@ public final class TextEdgesTest {
             CHECKS.due("behind others: " + text, due, () -> Checks.read(x, text));
             latest = due == 0 ? alone : latest;
             DripCups last = latest;
-            CHECKS.due("cups", last.count(0), () -> x.count(0));
+            for (int what = 0; what < 9; what++) {
+                int w = what;
+                CHECKS.due("count " + w, last.count(w), () -> x.count(w));
+            }
             for (int cup = 0; cup < last.count(0); cup++) {
                 int c = cup;
                 CHECKS.due("pipe of " + c, last.cup(c, 3), () -> x.cup(c, 3));
@@ -307,11 +310,27 @@ public final class TextEdgesTest {
                 CHECKS.due("tips of " + c, last.then(c, 3, 1), () -> x.then(c, 3, 1));
             }
         }
+        rulesInARow();
         DripCups turned = Checks.cave("cup 1 0 1;" + CUP + CUP + "pipe 0 1 2;");
         turned.hours(1);
         CHECKS.due("the second one's turn", 2, () -> turned.cup(0, 3));
         Checks.read(turned, "cup 1 0 1;" + CUP + CUP + "pipe 0 1 2;");
         CHECKS.due("anew it is the first one's", 1, () -> turned.cup(0, 3));
+    }
+
+    /** Of a longer rule nothing is left behind a shorter one, whichever text it was in. */
+    private static void rulesInARow() {
+        String[] rules = {"not 1", "not 1", "2", "3", "0-(1+2)*3", "not not not 9", "4", "5 or 0", "9*9*9", "6", "7"};
+        int[] leaks = {0, 0, 2, 3, 0, 0, 4, 1, 29, 6, 7};
+        DripCups x = new DripCups();
+        for (int i = 0; i < rules.length; i++) {
+            int left = 29 - leaks[i];
+            Checks.read(x, "cup 30 29 0;leaks " + rules[i] + ";");
+            CHECKS.due("behind others: leaks " + rules[i], left, () -> x.then(0, 1, 0));
+            int fill = leaks[i] > 0 ? 28 : 29;
+            Checks.read(x, "cup 30 28 1;frost " + rules[i] + ";");
+            CHECKS.due("behind others: frost " + rules[i], fill, () -> x.then(0, 1, 0));
+        }
     }
 
     // ---- promise 4 ----

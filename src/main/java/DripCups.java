@@ -279,8 +279,10 @@ public final class DripCups {
             throws NoSuchElementException, IllegalArgumentException {
         needCup(cup);
         needWhat(what, 1);
-        needRange(times, 0, Integer.MAX_VALUE);
         needRange(hours, 1, PLAN_HOURS);
+        if (times < 0) {
+            throw new IllegalArgumentException("times below 0");
+        }
         int best = NONE;
         int leastOff = 0;
         for (int holds = 1; holds <= MOST_HOLDS; holds++) {

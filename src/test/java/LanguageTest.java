@@ -18,6 +18,7 @@ import java.util.regex.Pattern;
 /** What of ../shared/LANGUAGE.md and of the public face can be seen from the class and its source. */
 public final class LanguageTest {
     private static final Path SOURCE = Path.of("src/main/java/DripCups.java");
+    private static final Path DOCUMENT = Path.of("../shared/DOC.md");
     private static int wrong = 0;
 
     private static final String FACE = """
@@ -67,6 +68,7 @@ public final class LanguageTest {
 
     public static void main(String[] args) throws Exception {
         face();
+        faceOfTheDocument();
         members();
         source();
         room();
@@ -99,6 +101,21 @@ public final class LanguageTest {
         Constructor<?>[] made = DripCups.class.getDeclaredConstructors();
         need(made.length == 1 && Modifier.isPublic(made[0].getModifiers()), "constructors");
         need(Modifier.isFinal(DripCups.class.getModifiers()), "the class is not final");
+    }
+
+    /** The document's lines, with the names of what is passed and what each call may throw, stand in the source. */
+    private static void faceOfTheDocument() throws IOException {
+        String source = Files.readString(SOURCE).replaceAll("\\s+", " ");
+        String document = Files.readString(DOCUMENT);
+        int lines = 0;
+        Matcher line = Pattern.compile("(?m)^    (public [^\n]*);$").matcher(document);
+        while (line.find()) {
+            lines++;
+            boolean constant = line.group(1).contains("=");
+            need(source.contains(line.group(1) + (constant ? ";" : " {")), "not as in the document: " + line.group(1));
+        }
+        need(lines == 44, "the document's face has " + lines + " lines");
+        need(DripCups.NONE == -1, "NONE");
     }
 
     private static void members() {
@@ -140,7 +157,7 @@ public final class LanguageTest {
             "\\bdouble\\b", "\\bfloat\\b", "Exact\\(", "\\bpackage\\b", "\\brandom\\b", "\\bnanoTime\\b",
             "System\\.(?!arraycopy)", "\\bThread\\b", "\\.(hashCode|toString|equals)\\(", "\"\"\\s*\\+",
             "\\bwhile \\(true\\)", "\\bfor \\(;;\\)", "import (?!java\\.util\\.(Arrays|NoSuchElementException);)",
-            "Arrays\\.(?!fill|copyOf)", "Math\\.(?!max|min|abs)", "Integer\\.(?!bitCount|MAX_VALUE)",
+            "Arrays\\.(?!fill|copyOf)", "Math\\.(?!max|min|abs)", "Integer\\.(?!bitCount)",
             "Long\\.(?!bitCount)", "throw new (?!IllegalArgumentException|NoSuchElementException)"};
         for (String pattern : forbidden) {
             Matcher found = Pattern.compile(pattern).matcher(code);
